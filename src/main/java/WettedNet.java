@@ -347,7 +347,7 @@ public final class WettedNet {
         }
 
         boolean isRoom(int room) {
-            return within(room, 0, number - 1);
+            return room >= 0 && room < number;
         }
 
         boolean isSet(int set) {
@@ -1144,9 +1144,9 @@ public final class WettedNet {
         private int forceOnce(int burning, int round) {
             int next = burning;
             for (int r = 0; r < rooms.howMany(); r++) {
-                int left = rooms.beside(r) & ~burning;
+                int left = has(burning, r) ? rooms.beside(r) & ~burning : 0;
                 // A room that a lesser one forces already in this round keeps that one.
-                if (has(burning, r) && Integer.bitCount(left) == 1 && (left & next) == 0) {
+                if (Integer.bitCount(left) == 1 && (left & next) == 0) {
                     int room = Integer.numberOfTrailingZeros(left);
                     if (rooms.isRoom(room)) {
                         rounds[room] = round;
