@@ -355,19 +355,19 @@ public final class WettedNet {
         }
 
         int beside(int room) {
-            return isRoom(room) ? besideOf[room] : 0;
+            return room >= 0 && room < number ? besideOf[room] : 0;
         }
 
         int at(int room) {
-            return isRoom(room) ? atOf[room] : 0;
+            return room >= 0 && room < number ? atOf[room] : 0;
         }
 
         int folk(int room) {
-            return isRoom(room) ? folkIn[room] : 0;
+            return room >= 0 && room < number ? folkIn[room] : 0;
         }
 
         int thick(int room) {
-            return isRoom(room) ? thickOf[room] : 0;
+            return room >= 0 && room < number ? thickOf[room] : 0;
         }
 
         int besideAny(int set) {
@@ -567,39 +567,28 @@ public final class WettedNet {
         private int readFirst(int kind) {
             switch (kind) {
                 case ROOMS:
-                    return readNumber(1, MOST_ROOMS);
+                    return readNumber(1, MOST_ROOMS, NONE);
                 case HANDS:
-                    return readNumber(1, MOST_HANDS);
+                    return readNumber(1, MOST_HANDS, NONE);
                 case CHANCE:
-                    return readNumber(1, TENTHS);
+                    return readNumber(1, TENTHS, NONE);
                 default:
-                    return readNumber(0, roomsThen - 1);
+                    return readNumber(0, roomsThen - 1, NONE);
             }
         }
 
         private int readSecond(int kind, int first) {
             switch (kind) {
                 case FOLK:
-                    return readNumber(0, MOST_FOLK);
+                    return readNumber(0, MOST_FOLK, NONE);
                 case THICK:
-                    return readNumber(1, MOST_THICK);
+                    return readNumber(1, MOST_THICK, NONE);
                 default:
-                    return readOtherRoom(first);
+                    return readNumber(0, roomsThen - 1, first);
             }
         }
 
-        private int readOtherRoom(int first) {
-            skipBlanks();
-            int start = place;
-            int second = readNumber(0, roomsThen - 1);
-            if (second != first) {
-                return second;
-            }
-            place = start;
-            return NONE;
-        }
-
-        private int readNumber(int low, int high) {
+        private int readNumber(int low, int high, int unlike) {
             skipBlanks();
             int end = endOfRow('0', '9');
             if (!within(end - place, 1, 2)) {
@@ -609,7 +598,7 @@ public final class WettedNet {
             for (int i = place; i < end; i++) {
                 value = 10 * value + byteAt(i) - '0';
             }
-            if (!within(value, low, high)) {
+            if (!within(value, low, high) || value == unlike) {
                 return NONE;
             }
             place = end;
@@ -622,7 +611,7 @@ public final class WettedNet {
 
         private int endOfRow(int low, int high) {
             for (int i = place; i < length; i++) {
-                if (!within(byteAt(i), low, high)) {
+                if (bytes[i] < low || bytes[i] > high) {
                     return i;
                 }
             }
@@ -630,7 +619,7 @@ public final class WettedNet {
         }
 
         private int byteAt(int i) {
-            return within(i, 0, length - 1) && i < MOST_BYTES ? bytes[i] : NONE;
+            return i >= 0 && i < length ? bytes[i] : NONE;
         }
 
         private int kindOf(int end) {

@@ -40,6 +40,7 @@ public final class PromisesTest {
         pairs();
         count();
         refusedCallsChangeNothing();
+        everyQuestionIsNew();
         CHECK.end();
     }
 
@@ -131,6 +132,12 @@ public final class PromisesTest {
         dueFault("hands 1" + (char) 233, 7);
         dueFault((char) 0 + "hands 1", 0);
         dueFault("zzzzzzzz;hands 1", 0);
+        for (String word : new String[] {"rooms", "door", "way", "shut", "folk", "thick", "hands", "chance"}) {
+            for (int i = 0; i < word.length(); i++) {
+                dueFault(" " + word.substring(0, i) + "z" + word.substring(i + 1) + " 1", 1);
+                dueFault(" " + word.substring(0, i) + word.substring(i + 1) + " 1", 1);
+            }
+        }
         for (String word : new String[] {"rooms", "hands", "chance"}) {
             dueFault(word + " 1", NONE);
             dueFault(word + " ;", word.length() + 1);
@@ -301,6 +308,7 @@ public final class PromisesTest {
         due("7 no fire", 0, path.least(0, 0));
         due("7 no fire, but hands wet", 1, path.least(0, 1));
         due("7 no fire, any room", 5, path.least(0, 2));
+        due("7 two fires, one hand", 3, path.least(17, 0));
         due("7 all burns", 5, path.least(31, 0));
         due("7 all burns, nothing to wet", 0, path.least(31, 1));
         due("7 all burns, one such set", 1, path.least(31, 2));
@@ -484,6 +492,7 @@ public final class PromisesTest {
         due("13 sparks behind n do not matter", 5, path.when(0xFF0, 1, 4));
         due("13 the room", UNKNOWN, path.when(0, 1, 5));
         due("13 a spark", UNKNOWN, path.when(0x50, 2, 0));
+        due("13 the first spark", UNKNOWN, path.when(0x05, 2, 0));
         due("13 n 0", OUTSIDE, path.when(0, 0, 0));
         due("13 n 9", OUTSIDE, path.when(0, 9, 0));
         due("13 n ahead of sparks", OUTSIDE, path.when(0xF, 9, 0));
@@ -497,6 +506,9 @@ public final class PromisesTest {
         WettedNet ways = Check.told("rooms 3;way 0 1;way 1 2");
         due("13 by ways", 3, ways.when(0, 1, 2));
         due("13 not against them", NONE, ways.when(2, 1, 0));
+        WettedNet apart = Check.told("rooms 4;way 0 2;way 1 3");
+        due("13 of two that burn the first", 2, apart.when(0x10, 2, 2));
+        due("13 and the second", 3, apart.when(0x10, 2, 3));
         for (int far : FAR) {
             due("13 far room", UNKNOWN, path.when(0, 1, far));
             due("13 far n", OUTSIDE, path.when(0, far, 0));
@@ -660,6 +672,7 @@ public final class PromisesTest {
         due("19 of 8", 8, two.carried(0, 2, 1));
         due("19 one half", 1, two.carried(0, 1, 0));
         due("19 one half", 2, two.carried(0, 1, 1));
+        due("19 to room 0", 7, Check.told("rooms 2;way 1 0;chance 7").carried(1, 0, 0));
         due("19 never", 0, two.carried(2, 0, 0));
         due("19 never, below", 1, two.carried(2, 0, 1));
         due("19 the same room", 1, two.carried(3, 3, 0));
@@ -850,5 +863,44 @@ public final class PromisesTest {
         CHECK.holds("refused calls change nothing: " + before + " / " + state(x), before.equals(state(x)));
         String answers = x.least(1, 0) + " " + x.hold(1, 3) + " " + x.sparks(0) + " " + x.forcers(4) + " " + x.token(0, 0, 1);
         CHECK.holds("nor do questions: " + answers, before.equals(state(x)));
+    }
+
+    /** What one question found out does not serve another one, or another net. */
+    private static void everyQuestionIsNew() {
+        WettedNet x = Check.told("rooms 4;door 0 1;door 1 2;door 2 3");
+        for (int i = 0; i < 3; i++) {
+            askOfPath(x, "time " + i);
+            Check.put(x, "door 0 2;door 0 3;folk 3 50;hands 2");
+            x.net();
+            due("then least", 2, x.least(1, 0));
+            due("then first wet", 10, x.least(1, 1));
+            due("then sparks", 2, x.sparks(-1));
+            due("then length", 3, x.token(1, 0, 1));
+            due("then alone", 3, x.token(1, 0, 3));
+            due("then pairs", 2, x.pairs());
+            Check.put(x, "shut 2 3;shut 1 2");
+            x.net();
+            due("then pairs of a star", 1, x.pairs());
+            due("then least of a star", 2, x.least(1, 0));
+            due("then alone in a star", 2, x.token(1, 0, 3));
+            due("then sparks in a star", 2, x.sparks(-1));
+            Check.put(x, "rooms 4;door 0 1;door 1 2;door 2 3;hands 1");
+            x.net();
+        }
+    }
+
+    private static void askOfPath(WettedNet x, String time) {
+        due("least, " + time, 1, x.least(1, 0));
+        due("least, " + time, 2, x.least(1, 1));
+        due("least, " + time, 2, x.least(2, 0));
+        due("first wets, " + time, 2, x.least(4, 2));
+        due("hold, " + time, 2, x.hold(2, 1));
+        due("least behind hold, " + time, 2, x.least(2, 0));
+        due("sparks, " + time, 2, x.sparks(-1));
+        due("spark, " + time, 1, x.sparks(0));
+        due("length, " + time, 3, x.token(0, 0, 1));
+        due("length, " + time, 1, x.token(1, 0, 1));
+        due("alone, " + time, 2, x.token(1, 0, 3));
+        due("pairs, " + time, 2, x.pairs());
     }
 }
