@@ -686,7 +686,7 @@ public final class WettedNet {
         }
 
         int get(int i) {
-            return within(i, 0, MOST_SETS - 1) ? ordered[i] : 0;
+            return i >= 0 && i < MOST_SETS ? ordered[i] : 0;
         }
 
         int startOf(int size) {
@@ -748,7 +748,8 @@ public final class WettedNet {
         int firstWet(int fire) {
             int goal = leastLost(fire, 0, rooms.hands());
             int size = howManyWet(rooms.all() & ~fire);
-            for (int i = sets.startOf(size); i < sets.startOf(size + 1); i++) {
+            int end = sets.startOf(size + 1);
+            for (int i = sets.startOf(size); i < end; i++) {
                 if (isFirstWet(fire, sets.get(i), goal)) {
                     return sets.get(i);
                 }
@@ -760,7 +761,8 @@ public final class WettedNet {
             int goal = leastLost(fire, 0, rooms.hands());
             int size = howManyWet(rooms.all() & ~fire);
             int found = 0;
-            for (int i = sets.startOf(size); i < sets.startOf(size + 1); i++) {
+            int end = sets.startOf(size + 1);
+            for (int i = sets.startOf(size); i < end; i++) {
                 if (isFirstWet(fire, sets.get(i), goal)) {
                     found++;
                 }
@@ -788,18 +790,20 @@ public final class WettedNet {
                 return known;
             }
             int next = burnOn(burning, wet);
-            int lost = next == burning || depth > MOST_ROOMS
-                    ? rooms.folkOf(burning)
-                    : lostByBest(burning, next, wet, depth);
+            int lost = rooms.folkOf(burning);
+            if (next != burning && depth <= MOST_ROOMS) {
+                lost = lostByBest(next, rooms.all() & ~burning & ~wet, wet, lost, depth);
+            }
             memo.keep(cell, lost);
             return lost;
         }
 
-        private int lostByBest(int burning, int next, int wet, int depth) {
-            int free = rooms.all() & ~burning & ~wet;
+        /** What is lost already is the least that may be lost, so a set by which no more is lost ends the search. */
+        private int lostByBest(int next, int free, int wet, int already, int depth) {
             int size = howManyWet(free);
             int best = TOO_MANY;
-            for (int i = sets.startOf(size); i < sets.startOf(size + 1); i++) {
+            int end = sets.startOf(size + 1);
+            for (int i = sets.startOf(size); i < end && best > already; i++) {
                 int set = sets.get(i);
                 if ((set & ~free) == 0) {
                     best = Math.min(best, lostFrom(next & ~set, wet | set, depth + 1));
@@ -1014,7 +1018,8 @@ public final class WettedNet {
         int leastSeedSets(int limit) {
             int size = Integer.bitCount(leastSeeds(limit));
             int found = 0;
-            for (int i = sets.startOf(size); i < sets.startOf(size + 1); i++) {
+            int end = sets.startOf(size + 1);
+            for (int i = sets.startOf(size); i < end; i++) {
                 if (isSeeds(sets.get(i), limit)) {
                     found++;
                 }
@@ -1101,7 +1106,8 @@ public final class WettedNet {
         int leastForcerSets() {
             int size = Integer.bitCount(leastForcers());
             int found = 0;
-            for (int i = sets.startOf(size); i < sets.startOf(size + 1); i++) {
+            int end = sets.startOf(size + 1);
+            for (int i = sets.startOf(size); i < end; i++) {
                 if (forcesAll(sets.get(i))) {
                     found++;
                 }
@@ -1113,7 +1119,8 @@ public final class WettedNet {
             int best = rooms.all();
             int cost = TOO_MANY;
             for (int set = 0; set <= rooms.all(); set++) {
-                int other = costOf(set);
+                // Rooms that cost as much by themselves need not be tried.
+                int other = Integer.bitCount(set) < cost ? costOf(set) : TOO_MANY;
                 if (other < cost) {
                     best = set;
                     cost = other;
