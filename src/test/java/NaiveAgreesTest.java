@@ -4,6 +4,7 @@ import java.util.Random;
 /** Long runs of calls, drawn with fixed seeds, on the class and on the literal reading of the document beside it. */
 public final class NaiveAgreesTest {
     private static final int OBJECTS = 250;
+    private static final int BURNT = 120;
     private static final int CALLS = 512;
     private static final String[] WORDS = {"rooms", "door", "way", "shut", "folk", "thick", "hands", "chance"};
 
@@ -22,6 +23,9 @@ public final class NaiveAgreesTest {
         Check all = new Check();
         for (int seed = 0; seed < OBJECTS; seed++) {
             all.due("seed " + seed, 0, new NaiveAgreesTest(seed).run());
+        }
+        for (int seed = 0; seed < BURNT; seed++) {
+            all.due("fires of seed " + seed, 0, new NaiveAgreesTest(seed).burn());
         }
         all.end();
     }
@@ -43,6 +47,33 @@ public final class NaiveAgreesTest {
                 ask(random.nextInt(20));
             }
             tellFaulty();
+        }
+        return wrong;
+    }
+
+    /** One net and as many fires in it as the calls last for: searches that mix up two of their states show here. */
+    private int burn() {
+        put("rooms " + (6 + random.nextInt(4)) + ";hands " + (1 + random.nextInt(2)));
+        same("net", naive.net(), net.net());
+        int rooms = naive.count(0);
+        StringBuilder text = new StringBuilder();
+        for (int r = 0; r < rooms; r++) {
+            text.append(r == 0 ? "" : ";").append("folk ").append(r).append(' ').append(1 << r % 6);
+        }
+        put(text.toString());
+        same("net", naive.net(), net.net());
+        for (int i = 0; i < 12; i++) {
+            int a = random.nextInt(rooms);
+            int b = (a + 1 + random.nextInt(rooms - 1)) % rooms;
+            put((random.nextInt(4) == 0 ? "way " : "door ") + a + " " + b);
+            same("net", naive.net(), net.net());
+        }
+        int first = random.nextInt(1 << rooms);
+        for (int i = 0; left > 2 && i < 1 << rooms; i++) {
+            int fire = first + i & (1 << rooms) - 1;
+            for (int what = 0; what <= 2; what++) {
+                same("least " + fire + " " + what, naive.least(fire, what), net.least(fire, what));
+            }
         }
         return wrong;
     }

@@ -262,5 +262,8 @@ final class SpreadBoundaries {
         WettedNet two = Nets.of("rooms 2;way 1 0");
         doc.due("a room and a ROUND, or two rooms", 2, two.forcers(3));
         doc.due("of both the least", 2, two.forcers(4));
+        Nets.tell(path, Nets.LONE9);
+        doc.due("no ROUNDS behind a net with some", 9, path.forcers(3));
+        doc.due("all nine of it", 511, path.forcers(4));
     }
 }

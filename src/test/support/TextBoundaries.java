@@ -187,6 +187,23 @@ final class TextBoundaries {
         doc.dueFault("ways 0 1", 0);
         doc.dueFault("a 1", 0);
         doc.dueFault("1 rooms", 0);
+        eachLineAlone();
+    }
+
+    /** What each line changes of ROOMS, WAYS, HANDS, CHANCE, all FOLK and EVEN, and of room 1's FOLK and THICK; all else stays. */
+    private void eachLineAlone() {
+        String[] lines = {"rooms 3", "door 0 1", "way 1 0", "shut 1 2", "folk 1 7", "thick 1 4", "hands 6", "chance 2"};
+        int[][] want = {{3, 0, 5, 9, 3, 1, 1, 1}, {4, 4, 5, 9, 7, 1, 4, 3}, {4, 3, 5, 9, 7, 0, 4, 3}, {4, 0, 5, 9, 7, 1, 4, 3},
+            {4, 2, 5, 9, 10, 1, 7, 3}, {4, 2, 5, 9, 7, 1, 4, 4}, {4, 2, 6, 9, 7, 1, 4, 3}, {4, 2, 5, 2, 7, 1, 4, 3}};
+        int[] counts = {0, 1, 3, 4, 5, 6};
+        for (int i = 0; i < lines.length; i++) {
+            WettedNet x = Nets.of("rooms 4;door 1 2;folk 1 4;thick 1 3;hands 5;chance 9", lines[i]);
+            for (int j = 0; j < counts.length; j++) {
+                doc.due(lines[i] + ": count " + counts[j], want[i][j], x.count(counts[j]));
+            }
+            doc.due(lines[i] + ": FOLK of room 1", want[i][6], x.room(1, 2));
+            doc.due(lines[i] + ": THICK of room 1", want[i][7], x.room(1, 3));
+        }
     }
 
     private void points() {
