@@ -6,6 +6,17 @@ public final class NaiveAgreesTest {
     private static final int OBJECTS = 250;
     private static final int BURNT = 120;
     private static final int CALLS = 512;
+    /** In each the search for the fires meets two states that a slip in how it numbers them would take for one. */
+    private static final String[][] CLOSE = {
+        {"rooms 9;hands 1;folk 1 81;folk 3 98;folk 4 23;door 2 0;door 6 2;door 4 8;door 2 3;door 7 6;door 4 3;door 1 4",
+            "door 2 1;door 4 6"},
+        {"rooms 9;hands 1;folk 0 60;folk 1 55;folk 2 57;folk 3 20;folk 4 0;folk 5 0;folk 6 87;folk 7 36;way 0 7;way 7 8",
+            "way 7 6;door 2 0;door 4 6;way 4 1;way 1 7;way 5 3;way 0 4;door 4 1;way 7 3;way 1 2;way 8 1", "way 4 5"},
+        {"rooms 8;hands 1;folk 0 33;folk 1 98;folk 2 80;folk 3 17;folk 5 28;door 4 3;door 4 6;door 7 4;door 2 6;door 0 3",
+            "door 6 0"},
+        {"rooms 9;hands 1;folk 0 48;folk 1 56;folk 2 98;folk 3 48;folk 4 46;folk 6 76;door 3 4;door 8 2;door 5 3;door 6 3",
+            "door 8 1;door 5 1;door 0 1;door 7 8"}};
+    private static final int[] CLOSE_FIRES = {320, 64, 4, 32};
     private static final String[] WORDS = {"rooms", "door", "way", "shut", "folk", "thick", "hands", "chance"};
 
     private final Random random;
@@ -26,6 +37,9 @@ public final class NaiveAgreesTest {
         }
         for (int seed = 0; seed < BURNT; seed++) {
             all.due("fires of seed " + seed, 0, new NaiveAgreesTest(seed).burn());
+        }
+        for (int i = 0; i < CLOSE.length; i++) {
+            all.due("fires of close net " + i, 0, new NaiveAgreesTest(i).burnFrom(CLOSE[i], CLOSE_FIRES[i]));
         }
         all.end();
     }
@@ -68,7 +82,18 @@ public final class NaiveAgreesTest {
             put((random.nextInt(4) == 0 ? "way " : "door ") + a + " " + b);
             same("net", naive.net(), net.net());
         }
-        int first = random.nextInt(1 << rooms);
+        return burnAll(random.nextInt(1 << rooms), rooms);
+    }
+
+    private int burnFrom(String[] texts, int fire) {
+        for (String text : texts) {
+            put(text);
+            same("net of " + text, naive.net(), net.net());
+        }
+        return burnAll(fire, naive.count(0));
+    }
+
+    private int burnAll(int first, int rooms) {
         for (int i = 0; left > 2 && i < 1 << rooms; i++) {
             int fire = first + i & (1 << rooms) - 1;
             for (int what = 0; what <= 2; what++) {
